@@ -63,8 +63,8 @@ public final class MouldFloor {
     private final History history = new History();
     private final Reasons reasons = new Reasons();
     private final Text text = new Text();
-    private final FamilyText familyText = new FamilyText(text);
-    private final ProgramText programText = new ProgramText(text);
+    private final FamilyText familyText = new FamilyText();
+    private final ProgramText programText = new ProgramText();
     private final ColourOrders colourOrders = new ColourOrders();
     private boolean isSaved;
 
@@ -89,7 +89,7 @@ public final class MouldFloor {
     }
 
     public int family() throws IllegalArgumentException, UnsupportedOperationException {
-        boolean isRead = familyText.isRead();
+        boolean isRead = familyText.isReadFrom(text);
         text.clear();
         if (!isRead) {
             throw new IllegalArgumentException("the text is no family");
@@ -99,7 +99,7 @@ public final class MouldFloor {
     }
 
     public int program() throws IllegalArgumentException, UnsupportedOperationException {
-        boolean isRead = programText.isRead();
+        boolean isRead = programText.isReadFrom(text);
         text.clear();
         if (!isRead) {
             throw new IllegalArgumentException("the text is no program");
@@ -1088,23 +1088,18 @@ public final class MouldFloor {
 
     /** Reads a family. */
     private static final class FamilyText {
-        private final Text text;
         private final int[] parts = new int[MOST_FAMILY_PARTS];
         private final int[] pieces = new int[MOST_FAMILY_PARTS];
         private int count;
         int cycle;
         int weight;
 
-        FamilyText(Text text) {
-            this.text = text;
-        }
-
-        boolean isRead() {
+        boolean isReadFrom(Text text) {
             text.start();
-            return text.end(isHeadRead() && isPartRead() && isTailRead());
+            return text.end(isHeadRead(text) && isPartRead(text) && isTailRead(text));
         }
 
-        private boolean isHeadRead() {
+        private boolean isHeadRead(Text text) {
             count = 0;
             cycle = text.number(2);
             if (cycle == NONE || !text.skip(' ')) {
@@ -1114,7 +1109,7 @@ public final class MouldFloor {
             return weight != NONE;
         }
 
-        private boolean isPartRead() {
+        private boolean isPartRead(Text text) {
             if (count >= MOST_FAMILY_PARTS || !text.skip(' ')) {
                 return false;
             }
@@ -1127,9 +1122,9 @@ public final class MouldFloor {
             return pieces[count - 1] != NONE;
         }
 
-        private boolean isTailRead() {
+        private boolean isTailRead(Text text) {
             for (int more = 1; more < MOST_FAMILY_PARTS && !text.isAtEnd(); more++) {
-                if (!isPartRead()) {
+                if (!isPartRead(text)) {
                     return false;
                 }
             }
@@ -1185,24 +1180,19 @@ public final class MouldFloor {
         /** Far above what a text can hold, as the shortest command and its ";" are three characters. */
         private static final int MOST_COMMANDS = MOST_CHARACTERS / 2;
 
-        private final Text text;
         private final int[] kinds = new int[MOST_COMMANDS];
         private final int[] numbers = new int[MOST_COMMANDS * MOST_NUMBERS];
         int count;
 
-        ProgramText(Text text) {
-            this.text = text;
-        }
-
-        boolean isRead() {
+        boolean isReadFrom(Text text) {
             text.start();
             count = 0;
-            return text.end(areCommandsRead());
+            return text.end(areCommandsRead(text));
         }
 
-        private boolean areCommandsRead() {
+        private boolean areCommandsRead(Text text) {
             for (int command = 0; command < MOST_COMMANDS; command++) {
-                if (command > 0 && !text.skip(';') || !isCommandRead(command)) {
+                if (command > 0 && !text.skip(';') || !isCommandRead(text, command)) {
                     return false;
                 }
                 count = command + 1;
@@ -1213,28 +1203,28 @@ public final class MouldFloor {
             return false;
         }
 
-        private boolean isCommandRead(int command) {
+        private boolean isCommandRead(Text text, int command) {
             if (text.skip('m')) {
                 kinds[command] = MOUNT;
-                return isNumberRead(command, 0, 1);
+                return isNumberRead(text, command, 0, 1);
             }
             if (text.skip('r')) {
                 kinds[command] = RUN;
-                return isNumberRead(command, 0, 1) && text.skip('x') && isNumberRead(command, 1, 3);
+                return isNumberRead(text, command, 0, 1) && text.skip('x') && isNumberRead(text, command, 1, 3);
             }
             if (text.skip('w')) {
                 kinds[command] = WAIT;
-                return isNumberRead(command, 0, 3);
+                return isNumberRead(text, command, 0, 3);
             }
             if (text.skip('l')) {
                 kinds[command] = LOAD;
-                boolean isDryerRead = isNumberRead(command, 0, 1) && isNumberRead(command, 1, 1);
-                return isDryerRead && text.skip('g') && isNumberRead(command, 2, 5);
+                boolean isDryerRead = isNumberRead(text, command, 0, 1) && isNumberRead(text, command, 1, 1);
+                return isDryerRead && text.skip('g') && isNumberRead(text, command, 2, 5);
             }
             return false;
         }
 
-        private boolean isNumberRead(int command, int place, int mostDigits) {
+        private boolean isNumberRead(Text text, int command, int place, int mostDigits) {
             int number = text.number(mostDigits);
             numbers[command * MOST_NUMBERS + place] = number;
             return number != NONE;
