@@ -100,6 +100,9 @@ public final class AddingTest {
         CHECKS.due("its parts", 2, () -> x.familyOf(2, 2));
         CHECKS.due("pieces of the part that it does not have", 0, () -> x.pieces(2, 1));
         CHECKS.due("changes by families", 7, () -> x.account(13));
+        MouldFloor y = new MouldFloor();
+        y.part(1);
+        CHECKS.due("a family of the only part", 0, () -> Floors.family(y, "1 1 0x1"));
     }
 
     private static void familyRefusals() {

@@ -9,6 +9,7 @@ public final class ChangesTest {
         undoOfEight();
         refusalsCostNoChange();
         saveAndRestore();
+        restoreBehindOthers();
         whatStays();
         CHECKS.end();
     }
@@ -182,6 +183,36 @@ public final class ChangesTest {
         x.undo();
         CHECKS.due("undo does not change the snapshot", 3, () -> x.restore());
         CHECKS.due("the parts", 4, () -> x.account(1));
+    }
+
+    /** What came in the place of something that was undone goes again when that is restored. */
+    private static void restoreBehindOthers() {
+        MouldFloor x = new MouldFloor();
+        x.colour(3);
+        x.part(4);
+        x.colour(7);
+        x.part(5);
+        Floors.family(x, "7 9 0x2 1x3");
+        x.order(1, 1, 3, 6);
+        x.save();
+        String saved = Floors.valuesOf(x);
+        for (int change = 0; change < 4; change++) {
+            x.undo();
+        }
+        x.colour(1);
+        x.part(2);
+        Floors.family(x, "8 6 1x5");
+        x.order(0, 0, 2, 1);
+        String other = Floors.valuesOf(x);
+        CHECKS.due("another floor", false, () -> saved.equals(other));
+        CHECKS.due("restore", 1, () -> x.restore());
+        CHECKS.due("the floor that was saved", saved, () -> Floors.valuesOf(x));
+        x.mount(0);
+        x.load(0, 1, 100);
+        x.pause(60);
+        x.run(1, 2);
+        CHECKS.due("the crate size that was saved", 1, () -> x.stock(1, 1, 0));
+        CHECKS.due("the pieces", 1, () -> x.stock(1, 1, 1));
     }
 
     private static void whatStays() {

@@ -8,6 +8,7 @@ public final class ColoursTest {
         best();
         bestOfMany();
         ties();
+        eachWithoutTheOthers();
         CHECKS.end();
     }
 
@@ -136,5 +137,28 @@ public final class ColoursTest {
         y.run(4, 1);
         sums(y, 63, 5 + 9);
         colours(y, 63, 4, 0, 1, 3, 2, 5);
+    }
+
+    /** No answer needs an earlier one, and none is an earlier one. */
+    private static void eachWithoutTheOthers() {
+        MouldFloor x = Floors.withShades(9, 0);
+        x.set(2, 5);
+        CHECKS.due("bestAgain alone", 1, () -> x.bestAgain(3));
+        MouldFloor y = Floors.withShades(9, 0);
+        CHECKS.due("bestColour alone", 1, () -> y.bestColour(3, 0));
+        MouldFloor z = Floors.withShades(9, 0, 5);
+        CHECKS.due("best of three", 2, () -> z.best(7));
+        z.undo();
+        z.undo();
+        z.undo();
+        z.undo();
+        z.undo();
+        z.colour(1);
+        z.colour(0);
+        CHECKS.due("bestColour by other shades", 2, () -> z.bestColour(7, 0));
+        CHECKS.due("bestColour by other shades", 1, () -> z.bestColour(7, 1));
+        z.undo();
+        CHECKS.fails("bestColour without the colour", Checks.ARGUMENT, z, () -> z.bestColour(7, 0));
+        CHECKS.due("bestColour of the others", 1, () -> z.bestColour(3, 0));
     }
 }

@@ -150,6 +150,25 @@ public final class MachineTest {
         CHECKS.due("the closed crates", 102, () -> x.stock(0, 0, 0));
         CHECKS.due("the time", 70 + 20 + 1000, () -> x.account(5));
         CHECKS.due("the changes", 8, () -> x.account(13));
+        crates(1, 5 * 9, 0);
+        crates(2, 22, 1);
+        crates(45, 1, 0);
+        crates(50, 0, 45);
+    }
+
+    /** Five shots of 9 pieces each. */
+    private static void crates(int size, int closed, int open) {
+        MouldFloor x = new MouldFloor();
+        x.colour(0);
+        x.part(size);
+        Floors.family(x, "1 1 0x9");
+        x.mount(0);
+        x.load(0, 0, 100);
+        x.pause(60);
+        x.run(0, 5);
+        CHECKS.due("closed crates of " + size, closed, () -> x.stock(0, 0, 0));
+        CHECKS.due("the open crate of " + size, open, () -> x.stock(0, 0, 1));
+        CHECKS.due("pieces in crates of " + size, closed * size, () -> x.made(0, 1));
     }
 
     private static void runPurges() {
@@ -170,6 +189,8 @@ public final class MachineTest {
         CHECKS.due("the rest of the part 1", 4, () -> x.made(1, 2));
         CHECKS.due("a run in a darker colour", 1, () -> x.run(1, 1));
         CHECKS.due("a run in the same colour", 0, () -> x.run(1, 1));
+        CHECKS.due("the shots of both purges", 8, () -> x.account(12));
+        CHECKS.due("the scrap of both purges", 16, () -> x.made(0, 3));
     }
 
     private static void runDryers() {

@@ -136,6 +136,15 @@ public final class NumbersTest {
         CHECKS.due("no scrap", 0.0f, () -> x.scrap());
         MouldFloor y = busy();
         CHECKS.due("scrap", 21.0f / 57.0f, () -> y.scrap());
+        MouldFloor z = Floors.ready();
+        Floors.family(z, "1 1 0x1");
+        z.mount(1);
+        z.run(0, 1);
+        CHECKS.due("no scrap with one piece", 0.0f, () -> z.scrap());
+        z.run(1, 2);
+        CHECKS.due("scrap of one piece", 1.0f / 4.0f, () -> z.scrap());
+        z.run(0, 1);
+        CHECKS.due("scrap of two purges", 8.0f / 12.0f, () -> z.scrap());
     }
 
     private static void account() {

@@ -10,7 +10,9 @@ public final class OrdersTest {
         orderOf();
         delivery();
         deliveryInOrder();
+        deliveryOfTen();
         shots();
+        shotsByColour();
         letter();
         due();
         lateness();
@@ -152,6 +154,26 @@ public final class OrdersTest {
         x.pause(480);
         CHECKS.due("the lower one first", 1, () -> x.orderOf(0, 4));
         CHECKS.due("none for the other", 2, () -> x.orderOf(3, 5));
+        CHECKS.due("the crates of both deliveries", 4, () -> x.stock(0, 0, 2));
+    }
+
+    private static void deliveryOfTen() {
+        MouldFloor x = Floors.ready();
+        for (int order = 0; order < 10; order++) {
+            x.order(0, 0, 1, order % 2);
+        }
+        x.run(0, 16);
+        x.pause(480);
+        CHECKS.due("those of the week 0 are delivered", 0b1010101010, () -> x.due(99));
+        x.pause(480);
+        CHECKS.due("three of the others are delivered too", 0b1010000000, () -> x.due(99));
+        x.run(0, 2);
+        x.pause(480);
+        CHECKS.due("the seventh is delivered", 0b1000000000, () -> x.due(99));
+        CHECKS.due("a week late", 1, () -> x.orderOf(7, 5));
+        CHECKS.due("the last one is late by two", 2, () -> x.orderOf(9, 5));
+        CHECKS.due("lateness of nine", 1.0 / 9.0, () -> x.lateness());
+        CHECKS.due("one is open", 1, () -> x.account(4));
     }
 
     private static void shots() {
@@ -185,6 +207,33 @@ public final class OrdersTest {
         x.mount(1);
         CHECKS.due("shots are rounded up", 2, () -> x.shots(1));
         CHECKS.fails("shots of another family's part", Checks.ELEMENT, x, () -> x.shots(2));
+    }
+
+    private static void shotsByColour() {
+        MouldFloor x = Floors.ready();
+        x.order(1, 1, 3, 0);
+        x.order(1, 0, 3, 0);
+        x.run(1, 4);
+        CHECKS.due("shots by the crates of the colour", 5, () -> x.shots(0));
+        CHECKS.due("shots without any", 9, () -> x.shots(1));
+        x.order(1, 1, 1, 0);
+        CHECKS.due("0 with as many and 1 piece a shot", 0, () -> x.shots(2));
+        MouldFloor y = Floors.withShades(0);
+        Floors.family(y, "1 1 2x1");
+        y.mount(0);
+        y.load(0, 0, 100);
+        y.pause(60);
+        y.order(2, 0, 1, 0);
+        for (int left = 5; left > 0; left--) {
+            int want = left;
+            CHECKS.due("shots", want, () -> y.shots(0));
+            y.run(0, 1);
+        }
+        for (int more = 0; more < 4; more++) {
+            CHECKS.due("0 with an open crate too", 0, () -> y.shots(0));
+            y.run(0, 1);
+        }
+        CHECKS.due("0 with pieces for another crate", 0, () -> y.shots(0));
     }
 
     private static void letter() {
