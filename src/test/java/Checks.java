@@ -1,6 +1,6 @@
 /** Counts what is not as due, and ends a test with exit code 1 if there was any. */
 final class Checks {
-    interface Call {
+    interface Question {
         Object answer();
     }
 
@@ -20,34 +20,18 @@ final class Checks {
     }
 
     /** What is due is an answer, or the class of an exception. */
-    void due(String what, Object want, Call call) {
+    void due(String what, Object want, Question question) {
         asked++;
-        Object got = answerOf(call);
+        Object got = answerOf(question);
         if (!want.equals(got)) {
             wrong++;
             System.out.println(test + ": " + what + " answered " + got + ", due is " + want);
         }
     }
 
-    /** An exception that leaves the state as it was, the reasons too. */
-    void fails(String what, Class<?> want, MouldFloor x, Call call) {
-        String before = Floors.stateOf(x) + Floors.reasonsOf(x) + x.account(14) + " " + x.faultPosition();
-        due(what, want, call);
-        due(what + ", and then the state", before,
-            () -> Floors.stateOf(x) + Floors.reasonsOf(x) + x.account(14) + " " + x.faultPosition());
-    }
-
-    /** A refusal that leaves the state as it was, with all its reasons as "10.0 11.60". */
-    void refused(String what, String reasons, MouldFloor x, Call call) {
-        String before = Floors.stateOf(x);
-        due(what, REFUSED, call);
-        due(what + ", and then the reasons", reasons, () -> Floors.reasonsOf(x));
-        due(what + ", and then the state", before, () -> Floors.stateOf(x));
-    }
-
-    static Object answerOf(Call call) {
+    static Object answerOf(Question question) {
         try {
-            return call.answer();
+            return question.answer();
         } catch (RuntimeException thrown) {
             return thrown.getClass();
         }

@@ -40,7 +40,7 @@ public final class ModelTest {
         return isRight;
     }
 
-    private void same(String call, Checks.Call real, Checks.Call model) {
+    private void same(String call, Checks.Question real, Checks.Question model) {
         if (left <= 0 || !isRight) {
             return;
         }

@@ -1,300 +1,710 @@
-/** Promises 13 to 15, 27 to 30 and 33: order, callOff, set, orderOf, shots, letter, due and lateness. */
+/** Orders: promises 13, 14, 27 to 30 and 33, the paragraph "Orders", and what "Time" says of them. */
 public final class OrdersTest {
-    private static final Checks CHECKS = new Checks("OrdersTest");
+    private static final Rows ROWS = new Rows("OrdersTest");
+
+    /** The shades 2 and 5; crates of 4, 3 and 5; the family 0 takes 5 minutes and 10 grams a shot. */
+    private static final String FLOOR = """
+        colour(2) = 0
+        colour(5) = 1
+        part(4) = 0
+        part(3) = 1
+        part(5) = 2
+        family("5 10 0x2 1x1") = 0
+        """;
+    /** The family is mounted, and granulate is dry at once. */
+    private static final String READY = FLOOR + """
+        set(1, 0) = 60
+        mount(0) = 0
+        load(0, 0, 50000) = 50000
+        load(1, 1, 50000) = 50000
+        """;
+    private static final String WEEK = "pause(480) = 1\n";
 
     public static void main(String[] args) {
         order();
-        orderRefusals();
+        orderBounds();
+        orderReasons();
         callOff();
-        set();
-        orderOf();
-        delivery();
-        deliveryInOrder();
-        deliveryOfTen();
+        open();
+        enoughCrates();
+        whichCrates();
+        whichWeeks();
+        ascending();
+        late();
         shots();
-        shotsByColour();
+        shotsOfCrates();
+        shotsRefused();
         letter();
         due();
         lateness();
-        CHECKS.end();
+        asked();
+        ROWS.end();
     }
 
     private static void order() {
-        MouldFloor x = Floors.withShades(1, 2);
-        CHECKS.due("order", 0, () -> x.order(2, 1, 20, 99));
-        CHECKS.due("order", 1, () -> x.order(0, 0, 1, 0));
-        CHECKS.due("the orders", 2, () -> x.account(3));
-        CHECKS.due("the open ones", 2, () -> x.account(4));
-        for (int number = 2; number < 10; number++) {
-            CHECKS.due("order", number, () -> x.order(1, 0, 5, 7));
-        }
-        CHECKS.refused("an eleventh order", "3.0", x, () -> x.order(0, 0, 1, 0));
-        CHECKS.refused("2 ahead of 3", "2.0", x, () -> x.order(0, 0, 0, 0));
-        x.callOff(4);
-        CHECKS.refused("called off ones stay", "3.0", x, () -> x.order(0, 0, 1, 0));
+        ROWS.test("At most 10 orders are kept, numbered from 0", FLOOR, """
+            order(0, 0, 1, 0) = 0
+            order(1, 0, 2, 3) = 1
+            order(2, 1, 3, 2) = 2
+            order(0, 0, 1, 0) = 3
+            order(0, 0, 1, 0) = 4
+            order(0, 0, 1, 0) = 5
+            order(0, 0, 1, 0) = 6
+            order(0, 0, 1, 0) = 7
+            order(0, 1, 5, 1) = 8
+            account(3) = 9
+            order(2, 1, 20, 99) = 9
+            account(3) = 10
+            account(4) = 10
+            order(0, 0, 1, 0) refused 3.0
+            orderOf(9, 2) = 20
+            undo() = 7
+            order(2, 0, 19, 98) = 9
+            orderOf(9, 2) = 19
+            order(0, 0, 1, 0) refused 3.0
+            """);
+        ROWS.test("Orders stay when they are delivered", READY, "order(0, 0, 1, 0)\n".repeat(10), "run(0, 20) = 0\n", WEEK, """
+            account(3) = 10
+            account(4) = 0
+            order(0, 0, 1, 0) refused 3.0
+            orderOf(9, 4) = 1
+            """);
+        ROWS.test("Orders stay when they are called off", FLOOR, "order(0, 0, 1, 0)\n".repeat(10), """
+            callOff(0) = 9
+            callOff(9) = 8
+            account(3) = 10
+            order(0, 0, 1, 0) refused 3.0
+            orderOf(9, 4) = 2
+            """);
     }
 
-    private static void orderRefusals() {
-        MouldFloor x = Floors.withShades(1, 2);
-        CHECKS.refused("no part", "1.0", x, () -> x.order(3, 0, 0, 0));
-        CHECKS.refused("part -1", "1.0", x, () -> x.order(-1, 0, 1, 0));
-        CHECKS.refused("no colour", "1.0", x, () -> x.order(0, 2, 0, 0));
-        CHECKS.refused("colour -1", "1.0", x, () -> x.order(0, -1, 1, 0));
-        CHECKS.refused("no crates", "2.0", x, () -> x.order(0, 0, 0, 0));
-        CHECKS.refused("21 crates", "2.0", x, () -> x.order(0, 0, 21, 0));
-        CHECKS.refused("week -1", "2.0", x, () -> x.order(0, 0, 1, -1));
-        CHECKS.refused("week 100", "2.0", x, () -> x.order(0, 0, 1, 100));
+    private static void orderBounds() {
+        ROWS.test("An order has 1 crate at least", FLOOR, """
+            order(0, 0, 0, 0) refused 2.0
+            order(0, 0, -1, 0) refused 2.0
+            order(0, 0, min, 0) refused 2.0
+            order(0, 0, 1, 0) = 0
+            orderOf(0, 2) = 1
+            """);
+        ROWS.test("An order has 20 crates at most", FLOOR, """
+            order(0, 0, 21, 0) refused 2.0
+            order(0, 0, max, 0) refused 2.0
+            order(0, 0, 20, 0) = 0
+            orderOf(0, 2) = 20
+            """);
+        ROWS.test("The week of an order is 0 at least", FLOOR, """
+            order(0, 0, 1, -1) refused 2.0
+            order(0, 0, 1, min) refused 2.0
+            order(0, 0, 1, 0) = 0
+            orderOf(0, 3) = 0
+            """);
+        ROWS.test("The week of an order is 99 at most", FLOOR, """
+            order(0, 0, 1, 100) refused 2.0
+            order(0, 0, 1, max) refused 2.0
+            order(0, 0, 1, 99) = 0
+            orderOf(0, 3) = 99
+            """);
+        ROWS.test("The part of an order is there", FLOOR, """
+            order(-1, 0, 1, 0) refused 1.0
+            order(3, 0, 1, 0) refused 1.0
+            order(8, 0, 1, 0) refused 1.0
+            order(min, 0, 1, 0) refused 1.0
+            order(max, 0, 1, 0) refused 1.0
+            order(2, 0, 1, 0) = 0
+            """);
+        ROWS.test("The colour of an order is there", FLOOR, """
+            order(0, -1, 1, 0) refused 1.0
+            order(0, 2, 1, 0) refused 1.0
+            order(0, 6, 1, 0) refused 1.0
+            order(0, min, 1, 0) refused 1.0
+            order(0, max, 1, 0) refused 1.0
+            order(0, 1, 1, 0) = 0
+            """);
+    }
+
+    private static void orderReasons() {
+        ROWS.test("Promise 13: the reason 1 is looked at ahead of 2", FLOOR, """
+            order(3, 0, 0, 0) refused 1.0
+            order(0, 2, 1, 100) refused 1.0
+            order(-1, 0, 21, -1) refused 1.0
+            order(0, -1, 0, 0) refused 1.0
+            """);
+        ROWS.test("Promise 13: the reasons 1 and 2 are looked at ahead of 3", FLOOR, "order(0, 0, 1, 0)\n".repeat(10), """
+            order(3, 0, 1, 0) refused 1.0
+            order(0, 2, 1, 0) refused 1.0
+            order(0, 0, 0, 0) refused 2.0
+            order(0, 0, 1, 100) refused 2.0
+            order(0, 0, 1, 0) refused 3.0
+            """);
+        ROWS.test("An order for a week that has ended is taken", FLOOR, WEEK, WEEK, """
+            order(0, 0, 1, 0) = 0
+            due(0) = 1
+            """);
     }
 
     private static void callOff() {
-        MouldFloor x = Floors.ready();
-        x.order(0, 0, 1, 0);
-        x.order(0, 0, 2, 0);
-        x.order(0, 0, 1, 5);
-        CHECKS.refused("no order", "1.0", x, () -> x.callOff(3));
-        CHECKS.refused("order -1", "1.0", x, () -> x.callOff(-1));
-        CHECKS.due("callOff", 2, () -> x.callOff(1));
-        CHECKS.due("its state", 2, () -> x.orderOf(1, 4));
-        CHECKS.refused("callOff again", "9.0", x, () -> x.callOff(1));
-        x.run(0, 2);
-        x.pause(480);
-        CHECKS.due("delivered", 1, () -> x.orderOf(0, 4));
-        CHECKS.refused("callOff of a delivered one", "9.0", x, () -> x.callOff(0));
-        CHECKS.due("called off, it is not late", 0, () -> x.orderOf(1, 5));
-        CHECKS.due("callOff of the last one", 0, () -> x.callOff(2));
-        CHECKS.due("the orders", 3, () -> x.account(3));
-        CHECKS.due("the open ones", 0, () -> x.account(4));
+        String rows = READY + """
+            order(0, 0, 1, 0) = 0
+            order(0, 1, 1, 0) = 1
+            order(0, 0, 1, 5) = 2
+            """;
+        ROWS.test("Promise 14: callOff returns the number of orders that are open then", rows, """
+            callOff(1) = 2
+            account(4) = 2
+            callOff(0) = 1
+            callOff(2) = 0
+            account(4) = 0
+            account(3) = 3
+            """);
+        ROWS.test("Promise 14: the delivered ones are not open", rows, """
+            run(0, 2) = 0
+            """, WEEK, """
+            account(4) = 2
+            callOff(2) = 1
+            """);
+        ROWS.test("Promise 14: there is no such order", rows, """
+            callOff(-1) refused 1.0
+            callOff(3) refused 1.0
+            callOff(10) refused 1.0
+            callOff(min) refused 1.0
+            callOff(max) refused 1.0
+            callOff(2) = 2
+            """);
+        ROWS.test("Promise 14: an order that is called off is not open", rows, """
+            callOff(1) = 2
+            callOff(1) refused 9.0
+            """);
+        ROWS.test("Promise 14: a delivered order is not open", rows, """
+            run(0, 2) = 0
+            """, WEEK, """
+            callOff(0) refused 9.0
+            callOff(1) = 1
+            """);
+        ROWS.test("Promise 14: a late order is open", rows, WEEK, """
+            letter(1) = 'l'
+            callOff(1) = 2
+            orderOf(1, 4) = 2
+            orderOf(1, 5) = 1
+            """);
     }
 
-    private static void set() {
-        MouldFloor x = new MouldFloor();
-        int[][] settings = {{480, 60, 9999}, {60, 0, 999}, {2, 0, 5}, {10, 0, 99}};
-        CHECKS.refused("set 4", "2.0", x, () -> x.set(4, 60));
-        CHECKS.refused("set -1", "2.0", x, () -> x.set(-1, 60));
-        for (int what = 0; what < 4; what++) {
-            int number = what;
-            int[] setting = settings[what];
-            CHECKS.refused("set less than " + setting[1], "2.0", x, () -> x.set(number, setting[1] - 1));
-            CHECKS.refused("set more than " + setting[2], "2.0", x, () -> x.set(number, setting[2] + 1));
-            CHECKS.due("set to the least", setting[0], () -> x.set(number, setting[1]));
-            CHECKS.due("the least", setting[1], () -> x.account(15 + number));
-            CHECKS.due("set to the most", setting[1], () -> x.set(number, setting[2]));
-            CHECKS.due("the most", setting[2], () -> x.account(15 + number));
-        }
-        CHECKS.due("changes by set", 8, () -> x.account(13));
-        x.undo();
-        CHECKS.due("changes", 7, () -> x.account(13));
-        CHECKS.due("set to what it is", 0, () -> x.set(3, 0));
-        CHECKS.due("is a change too", 8, () -> x.account(13));
+    private static void open() {
+        ROWS.test("An order that is called off is looked at no more", READY, """
+            order(0, 0, 1, 0) = 0
+            order(0, 0, 1, 0) = 1
+            callOff(0) = 1
+            run(0, 2) = 0
+            """, WEEK, """
+            orderOf(0, 4) = 2
+            orderOf(0, 5) = 0
+            orderOf(1, 4) = 1
+            stock(0, 0, 0) = 0
+            """, WEEK, """
+            orderOf(0, 5) = 0
+            """);
+        ROWS.test("An order that is delivered is looked at no more", READY, """
+            order(0, 0, 1, 0) = 0
+            run(0, 4) = 0
+            """, WEEK, WEEK, """
+            stock(0, 0, 0) = 1
+            stock(0, 0, 2) = 1
+            orderOf(0, 5) = 0
+            """);
     }
 
-    private static void orderOf() {
-        MouldFloor x = Floors.withShades(1, 2);
-        x.order(2, 1, 20, 99);
-        x.order(1, 0, 3, 4);
-        int[][] want = {{2, 1, 20, 99, 0, 0}, {1, 0, 3, 4, 0, 0}};
-        for (int order = 0; order < 2; order++) {
-            for (int what = 0; what < 6; what++) {
-                int number = order;
-                int place = what;
-                CHECKS.due("orderOf " + order + ", " + what, want[order][what], () -> x.orderOf(number, place));
-            }
-        }
-        CHECKS.fails("orderOf of no order", Checks.INDEX, x, () -> x.orderOf(2, 6));
-        CHECKS.fails("orderOf of -1", Checks.INDEX, x, () -> x.orderOf(-1, 0));
-        CHECKS.fails("orderOf what 6", Checks.ARGUMENT, x, () -> x.orderOf(1, 6));
-        CHECKS.fails("orderOf what -1", Checks.ARGUMENT, x, () -> x.orderOf(1, -1));
+    private static void enoughCrates() {
+        ROWS.test("An order is delivered if there are just as many closed crates", READY, """
+            order(0, 0, 2, 0) = 0
+            run(0, 4) = 0
+            stock(0, 0, 0) = 2
+            """, WEEK, """
+            orderOf(0, 4) = 1
+            orderOf(0, 5) = 0
+            stock(0, 0, 0) = 0
+            stock(0, 0, 2) = 2
+            """);
+        ROWS.test("An order is late if there is one closed crate fewer", READY, """
+            order(0, 0, 2, 0) = 0
+            run(0, 3) = 0
+            stock(0, 0, 0) = 1
+            stock(0, 0, 1) = 2
+            """, WEEK, """
+            orderOf(0, 4) = 0
+            orderOf(0, 5) = 1
+            stock(0, 0, 0) = 1
+            stock(0, 0, 2) = 0
+            """);
+        ROWS.test("An order takes no more closed crates than it has", READY, """
+            order(0, 0, 2, 0) = 0
+            run(0, 7) = 0
+            stock(0, 0, 0) = 3
+            """, WEEK, """
+            orderOf(0, 4) = 1
+            stock(0, 0, 0) = 1
+            stock(0, 0, 1) = 2
+            stock(0, 0, 2) = 2
+            """);
+        ROWS.test("An order of 20 crates", READY, """
+            order(0, 0, 20, 0) = 0
+            run(0, 39) = 0
+            stock(0, 0, 0) = 19
+            """, WEEK, """
+            letter(0) = 'l'
+            run(0, 1) = 0
+            """, WEEK, """
+            letter(0) = 'd'
+            stock(0, 0, 2) = 20
+            """);
     }
 
-    private static void delivery() {
-        MouldFloor x = Floors.ready();
-        x.order(0, 0, 2, 1);
-        x.run(0, 5);
-        CHECKS.due("the crates", 2, () -> x.stock(0, 0, 0));
-        x.pause(385);
-        CHECKS.due("its week is not yet", 0, () -> x.orderOf(0, 4));
-        CHECKS.due("nor late", 0, () -> x.orderOf(0, 5));
-        x.pause(479);
-        CHECKS.due("not before the end of the week", 0, () -> x.orderOf(0, 4));
-        x.pause(1);
-        CHECKS.due("at its end", 1, () -> x.orderOf(0, 4));
-        CHECKS.due("the crates are gone", 0, () -> x.stock(0, 0, 0));
-        CHECKS.due("they were delivered", 2, () -> x.stock(0, 0, 2));
-        CHECKS.due("the rest stays", 2, () -> x.stock(0, 0, 1));
-        CHECKS.due("pieces in crates, delivered or not", 8, () -> x.made(0, 1));
-        x.order(1, 0, 2, 0);
-        x.pause(480);
-        x.pause(480);
-        CHECKS.due("an order of a week before is late by the weeks since", 2, () -> x.orderOf(1, 5));
-        CHECKS.due("its crates stay", 1, () -> x.stock(1, 0, 0));
-        x.run(0, 1);
-        x.pause(480);
-        CHECKS.due("delivered", 1, () -> x.orderOf(1, 4));
-        CHECKS.due("late for ever", 2, () -> x.orderOf(1, 5));
-        x.pause(480);
-        CHECKS.due("late for ever", 2, () -> x.orderOf(1, 5));
+    private static void whichCrates() {
+        ROWS.test("The crates are those of the part of an order", READY, """
+            order(2, 0, 1, 0) = 0
+            order(1, 0, 1, 0) = 1
+            run(0, 4) = 0
+            """, WEEK, """
+            letter(0) = 'l'
+            letter(1) = 'd'
+            stock(0, 0, 0) = 2
+            stock(1, 0, 0) = 0
+            """);
+        ROWS.test("The crates are those of the colour of an order", READY, """
+            order(0, 0, 1, 0) = 0
+            order(0, 1, 1, 0) = 1
+            run(1, 4) = 0
+            """, WEEK, """
+            letter(0) = 'l'
+            letter(1) = 'd'
+            stock(0, 1, 0) = 1
+            """);
     }
 
-    private static void deliveryInOrder() {
-        MouldFloor x = Floors.ready();
-        x.order(0, 0, 3, 0);
-        x.order(0, 1, 1, 0);
-        x.order(0, 0, 1, 0);
-        x.order(0, 0, 2, 0);
-        x.run(0, 4);
-        x.pause(480);
-        CHECKS.due("too few for the first", 0, () -> x.orderOf(0, 4));
-        CHECKS.due("none in the other colour", 0, () -> x.orderOf(1, 4));
-        CHECKS.due("enough for the next", 1, () -> x.orderOf(2, 4));
-        CHECKS.due("too few behind it", 0, () -> x.orderOf(3, 4));
-        CHECKS.due("late", 1, () -> x.orderOf(3, 5));
-        CHECKS.due("not late", 0, () -> x.orderOf(2, 5));
-        CHECKS.due("left", 1, () -> x.stock(0, 0, 0));
-        x.run(0, 4);
-        x.pause(480);
-        CHECKS.due("the lower one first", 1, () -> x.orderOf(0, 4));
-        CHECKS.due("none for the other", 2, () -> x.orderOf(3, 5));
-        CHECKS.due("the crates of both deliveries", 4, () -> x.stock(0, 0, 2));
+    private static void whichWeeks() {
+        String rows = READY + """
+            order(0, 0, 1, 0) = 0
+            order(0, 0, 1, 1) = 1
+            order(0, 0, 1, 2) = 2
+            """;
+        ROWS.test("Orders are looked at whose week is at most this one", rows, WEEK, """
+            orderOf(0, 5) = 1
+            orderOf(1, 5) = 0
+            orderOf(2, 5) = 0
+            """, WEEK, """
+            orderOf(0, 5) = 2
+            orderOf(1, 5) = 1
+            orderOf(2, 5) = 0
+            """, WEEK, """
+            orderOf(0, 5) = 3
+            orderOf(1, 5) = 2
+            orderOf(2, 5) = 1
+            """);
+        ROWS.test("An order of a later week is not delivered", rows, """
+            run(0, 6) = 0
+            """, WEEK, """
+            letter(0) = 'd'
+            letter(1) = 'o'
+            letter(2) = 'o'
+            stock(0, 0, 0) = 2
+            """, WEEK, """
+            letter(1) = 'd'
+            letter(2) = 'o'
+            stock(0, 0, 0) = 1
+            """, WEEK, """
+            letter(2) = 'd'
+            lateness() = 0d
+            """);
+        ROWS.test("Not before the week ends", rows, """
+            run(0, 6) = 0
+            pause(439) = 0
+            letter(0) = 'o'
+            pause(1) = 1
+            letter(0) = 'd'
+            """);
+        ROWS.test("Orders of the week 99", READY, """
+            set(0, 60) = 480
+            order(0, 0, 1, 98) = 0
+            order(0, 0, 1, 99) = 1
+            """, "pause(960) = 16\n".repeat(6), """
+            pause(140) = 2
+            account(6) = 98
+            orderOf(0, 5) = 0
+            pause(50) = 1
+            orderOf(0, 5) = 1
+            orderOf(1, 5) = 0
+            pause(60) = 1
+            orderOf(0, 5) = 2
+            orderOf(1, 5) = 1
+            account(6) = 100
+            """);
+        ROWS.test("An order of a week that has ended is late from the next end on", READY, WEEK, WEEK, """
+            order(0, 0, 1, 0) = 0
+            orderOf(0, 5) = 0
+            """, WEEK, """
+            orderOf(0, 5) = 1
+            """);
     }
 
-    private static void deliveryOfTen() {
-        MouldFloor x = Floors.ready();
-        for (int order = 0; order < 10; order++) {
-            x.order(0, 0, 1, order % 2);
-        }
-        x.run(0, 16);
-        x.pause(480);
-        CHECKS.due("those of the week 0 are delivered", 0b1010101010, () -> x.due(99));
-        x.pause(480);
-        CHECKS.due("three of the others are delivered too", 0b1010000000, () -> x.due(99));
-        x.run(0, 2);
-        x.pause(480);
-        CHECKS.due("the seventh is delivered", 0b1000000000, () -> x.due(99));
-        CHECKS.due("a week late", 1, () -> x.orderOf(7, 5));
-        CHECKS.due("the last one is late by two", 2, () -> x.orderOf(9, 5));
-        CHECKS.due("lateness of nine", 1.0 / 9.0, () -> x.lateness());
-        CHECKS.due("one is open", 1, () -> x.account(4));
+    private static void ascending() {
+        ROWS.test("Orders are looked at in ascending order of their numbers", READY, """
+            order(0, 0, 1, 1) = 0
+            order(0, 0, 1, 0) = 1
+            order(0, 0, 1, 0) = 2
+            run(0, 2) = 0
+            """, WEEK, """
+            letter(0) = 'o'
+            letter(1) = 'd'
+            letter(2) = 'l'
+            run(0, 2) = 0
+            """, WEEK, """
+            letter(0) = 'd'
+            letter(2) = 'l'
+            orderOf(2, 5) = 2
+            """);
+        ROWS.test("An order that needs too many crates leaves them to the next one", READY, """
+            order(0, 0, 3, 0) = 0
+            order(0, 0, 1, 0) = 1
+            order(0, 0, 2, 0) = 2
+            order(0, 0, 1, 0) = 3
+            run(0, 4) = 0
+            """, WEEK, """
+            letter(0) = 'l'
+            letter(1) = 'd'
+            letter(2) = 'l'
+            letter(3) = 'd'
+            stock(0, 0, 0) = 0
+            """);
+        ROWS.test("All ten orders are looked at", READY, "order(0, 0, 1, 0)\n".repeat(10), """
+            run(0, 18) = 0
+            """, WEEK, """
+            due(0) = 512
+            letter(8) = 'd'
+            letter(9) = 'l'
+            account(4) = 1
+            """);
+    }
+
+    private static void late() {
+        ROWS.test("An order is late by one more week with each week", READY, """
+            order(0, 0, 1, 0) = 0
+            orderOf(0, 5) = 0
+            """, WEEK, """
+            orderOf(0, 5) = 1
+            pause(960) = 2
+            orderOf(0, 5) = 3
+            run(0, 2) = 0
+            """, WEEK, """
+            orderOf(0, 5) = 3
+            orderOf(0, 4) = 1
+            """, WEEK, """
+            orderOf(0, 5) = 3
+            """);
     }
 
     private static void shots() {
-        MouldFloor x = Floors.withFamily();
-        x.order(0, 0, 2, 0);
-        x.order(2, 0, 1, 0);
-        x.order(1, 0, 2, 0);
-        CHECKS.fails("shots of no order", Checks.INDEX, x, () -> x.shots(3));
-        CHECKS.fails("shots of -1", Checks.INDEX, x, () -> x.shots(-1));
-        CHECKS.fails("shots with none mounted", Checks.ELEMENT, x, () -> x.shots(0));
-        x.mount(0);
-        CHECKS.due("shots", 4, () -> x.shots(0));
-        CHECKS.due("shots of the part 1", 6, () -> x.shots(2));
-        CHECKS.fails("shots of a part that it does not have", Checks.ELEMENT, x, () -> x.shots(1));
-        x.load(0, 0, 1000);
-        x.pause(60);
-        x.run(0, 1);
-        CHECKS.due("shots by an open crate", 3, () -> x.shots(0));
-        x.order(0, 0, 1, 0);
-        CHECKS.due("whatever other orders have", 3, () -> x.shots(0));
-        x.run(0, 1);
-        CHECKS.due("shots by a closed crate", 2, () -> x.shots(0));
-        CHECKS.due("0 with as many", 0, () -> x.shots(3));
-        x.run(0, 4);
-        CHECKS.due("0 with more", 0, () -> x.shots(3));
-        x.callOff(3);
-        CHECKS.fails("shots of one that is called off", Checks.ELEMENT, x, () -> x.shots(3));
-        x.pause(480);
-        CHECKS.fails("shots of a delivered one", Checks.ELEMENT, x, () -> x.shots(0));
-        Floors.family(x, "1 1 2x3");
-        x.mount(1);
-        CHECKS.due("shots are rounded up", 2, () -> x.shots(1));
-        CHECKS.fails("shots of another family's part", Checks.ELEMENT, x, () -> x.shots(2));
+        ROWS.test("Promise 28: the fewest shots for the crates that are lacking", READY, """
+            order(0, 0, 1, 0) = 0
+            order(0, 0, 20, 0) = 1
+            order(1, 0, 1, 0) = 2
+            order(1, 1, 7, 0) = 3
+            shots(0) = 2
+            shots(1) = 40
+            shots(2) = 3
+            shots(3) = 21
+            """);
+        ROWS.test("Promise 28: a shot too many, rather than one too few", READY, """
+            family("1 1 2x4") = 1
+            mount(1) = 0
+            order(2, 0, 1, 0) = 0
+            order(2, 0, 4, 0) = 1
+            order(2, 0, 5, 0) = 2
+            shots(0) = 2
+            shots(1) = 5
+            shots(2) = 7
+            """);
+        ROWS.test("Promise 28: the open crate counts", READY, """
+            order(1, 0, 2, 0) = 0
+            shots(0) = 6
+            run(0, 1) = 0
+            shots(0) = 5
+            run(0, 1) = 0
+            shots(0) = 4
+            run(0, 1) = 0
+            shots(0) = 3
+            stock(1, 0, 0) = 1
+            run(0, 2) = 0
+            shots(0) = 1
+            run(0, 1) = 0
+            shots(0) = 0
+            run(0, 1) = 0
+            shots(0) = 0
+            """);
+        ROWS.test("Promise 28: those of a purge are not counted", READY, """
+            order(0, 0, 1, 0) = 0
+            run(1, 1) = 0
+            shots(0) = 2
+            """);
     }
 
-    private static void shotsByColour() {
-        MouldFloor x = Floors.ready();
-        x.order(1, 1, 3, 0);
-        x.order(1, 0, 3, 0);
-        x.run(1, 4);
-        CHECKS.due("shots by the crates of the colour", 5, () -> x.shots(0));
-        CHECKS.due("shots without any", 9, () -> x.shots(1));
-        x.order(1, 1, 1, 0);
-        CHECKS.due("0 with as many and 1 piece a shot", 0, () -> x.shots(2));
-        MouldFloor y = Floors.withShades(0);
-        Floors.family(y, "1 1 2x1");
-        y.mount(0);
-        y.load(0, 0, 100);
-        y.pause(60);
-        y.order(2, 0, 1, 0);
-        for (int left = 5; left > 0; left--) {
-            int want = left;
-            CHECKS.due("shots", want, () -> y.shots(0));
-            y.run(0, 1);
-        }
-        for (int more = 0; more < 4; more++) {
-            CHECKS.due("0 with an open crate too", 0, () -> y.shots(0));
-            y.run(0, 1);
-        }
-        CHECKS.due("0 with pieces for another crate", 0, () -> y.shots(0));
+    private static void shotsOfCrates() {
+        ROWS.test("Promise 28: 0 if there are as many", READY, """
+            order(0, 0, 2, 0) = 0
+            run(0, 3) = 0
+            shots(0) = 1
+            run(0, 1) = 0
+            stock(0, 0, 0) = 2
+            shots(0) = 0
+            """);
+        ROWS.test("Promise 28: 0 if there are more", READY, """
+            order(0, 0, 1, 0) = 0
+            run(0, 9) = 0
+            stock(0, 0, 0) = 4
+            shots(0) = 0
+            """);
+        ROWS.test("Promise 28: whatever other orders have", READY, """
+            order(0, 0, 1, 0) = 0
+            order(0, 0, 1, 0) = 1
+            run(0, 2) = 0
+            shots(0) = 0
+            shots(1) = 0
+            """, WEEK, """
+            letter(0) = 'd'
+            shots(1) = 2
+            """);
+        ROWS.test("Promise 28: the crates of the part and colour", READY, """
+            order(0, 0, 1, 0) = 0
+            order(0, 1, 1, 0) = 1
+            order(1, 0, 1, 0) = 2
+            run(1, 2) = 0
+            shots(0) = 2
+            shots(1) = 0
+            shots(2) = 3
+            """);
+        ROWS.test("Promise 28: of the family that is mounted", READY, """
+            order(0, 0, 5, 0) = 0
+            family("1 1 0x9") = 1
+            shots(0) = 10
+            mount(1) = 0
+            shots(0) = 3
+            """);
+        ROWS.test("Promise 28: though the order is late", READY, """
+            order(0, 0, 1, 0) = 0
+            """, WEEK, """
+            letter(0) = 'l'
+            shots(0) = 2
+            """);
+    }
+
+    private static void shotsRefused() {
+        ROWS.test("Promise 28: there is no such order", READY, """
+            order(0, 0, 1, 0) = 0
+            shots(-1) throws Index
+            shots(1) throws Index
+            shots(10) throws Index
+            shots(min) throws Index
+            shots(max) throws Index
+            shots(0) = 2
+            """);
+        ROWS.test("Promise 28: it is called off", READY, """
+            order(0, 0, 1, 0) = 0
+            callOff(0) = 0
+            shots(0) throws Element
+            """);
+        ROWS.test("Promise 28: it is delivered", READY, """
+            order(0, 0, 1, 0) = 0
+            run(0, 2) = 0
+            """, WEEK, """
+            shots(0) throws Element
+            """);
+        ROWS.test("Promise 28: no family is mounted", FLOOR, """
+            order(0, 0, 1, 0) = 0
+            shots(0) throws Element
+            mount(0) = 0
+            shots(0) = 2
+            """);
+        ROWS.test("Promise 28: the family does not have the part", READY, """
+            order(2, 0, 1, 0) = 0
+            shots(0) throws Element
+            family("1 1 2x1") = 1
+            mount(1) = 0
+            shots(0) = 5
+            """);
+        ROWS.test("Promise 28: the family does not have the part, though there are as many crates", READY, """
+            order(0, 0, 1, 0) = 0
+            run(0, 2) = 0
+            shots(0) = 0
+            family("1 1 2x1") = 1
+            mount(1) = 0
+            shots(0) throws Element
+            """);
+        ROWS.test("Promise 28: the order is looked at ahead of the family", FLOOR, """
+            shots(0) throws Index
+            order(0, 0, 1, 0) = 0
+            shots(1) throws Index
+            shots(0) throws Element
+            """);
     }
 
     private static void letter() {
-        MouldFloor x = Floors.ready();
-        x.order(0, 0, 1, 0);
-        x.order(0, 1, 1, 0);
-        x.order(0, 0, 1, 9);
-        x.order(0, 1, 1, 0);
-        CHECKS.due("letter", 'o', () -> x.letter(0));
-        x.run(0, 2);
-        x.pause(480);
-        CHECKS.due("letter of a delivered one", 'd', () -> x.letter(0));
-        CHECKS.due("letter of a late one", 'l', () -> x.letter(1));
-        CHECKS.due("letter of an open one", 'o', () -> x.letter(2));
-        x.callOff(1);
-        CHECKS.due("letter of a late one that is called off", 'c', () -> x.letter(1));
-        x.run(1, 2);
-        x.pause(480);
-        CHECKS.due("letter of a late one that is delivered", 'd', () -> x.letter(3));
-        CHECKS.fails("letter of no order", Checks.INDEX, x, () -> x.letter(4));
-        CHECKS.fails("letter of -1", Checks.INDEX, x, () -> x.letter(-1));
+        ROWS.test("Promise 29: \"o\" if it is open", READY, """
+            order(0, 0, 1, 1) = 0
+            letter(0) = 'o'
+            """, WEEK, """
+            letter(0) = 'o'
+            """);
+        ROWS.test("Promise 29: \"l\" if it is open and late", READY, """
+            order(0, 0, 1, 0) = 0
+            pause(469) = 0
+            letter(0) = 'o'
+            pause(1) = 1
+            letter(0) = 'l'
+            """, WEEK, """
+            letter(0) = 'l'
+            """);
+        ROWS.test("Promise 29: \"d\" if it is delivered, late or not", READY, """
+            order(0, 0, 1, 0) = 0
+            order(0, 1, 1, 0) = 1
+            run(0, 2) = 0
+            """, WEEK, """
+            letter(0) = 'd'
+            run(1, 2) = 1
+            """, WEEK, """
+            letter(1) = 'd'
+            orderOf(1, 5) = 1
+            """);
+        ROWS.test("Promise 29: \"c\" if it is called off, late or not", READY, """
+            order(0, 0, 1, 0) = 0
+            order(0, 0, 1, 0) = 1
+            callOff(0) = 1
+            letter(0) = 'c'
+            """, WEEK, """
+            letter(0) = 'c'
+            letter(1) = 'l'
+            callOff(1) = 0
+            letter(1) = 'c'
+            """);
+        ROWS.test("Promise 29: there is no such order", READY, """
+            order(0, 0, 1, 0) = 0
+            letter(-1) throws Index
+            letter(1) throws Index
+            letter(10) throws Index
+            letter(min) throws Index
+            letter(max) throws Index
+            """);
     }
 
     private static void due() {
-        MouldFloor x = Floors.ready();
-        x.order(0, 0, 1, 0);
-        x.order(0, 1, 1, 5);
-        x.order(0, 0, 1, 3);
-        x.order(0, 0, 1, 99);
-        CHECKS.fails("due of -1", Checks.ARGUMENT, x, () -> x.due(-1));
-        CHECKS.fails("due of the least", Checks.ARGUMENT, x, () -> x.due(Integer.MIN_VALUE));
-        CHECKS.due("due 0", 1, () -> x.due(0));
-        CHECKS.due("due 2", 1, () -> x.due(2));
-        CHECKS.due("due 3", 5, () -> x.due(3));
-        CHECKS.due("due 5", 7, () -> x.due(5));
-        CHECKS.due("due 99", 15, () -> x.due(99));
-        CHECKS.due("due of the most", 15, () -> x.due(Integer.MAX_VALUE));
-        x.callOff(1);
-        CHECKS.due("without the one that is called off", 5, () -> x.due(5));
-        x.run(0, 2);
-        x.pause(480);
-        CHECKS.due("without the delivered one", 4, () -> x.due(5));
+        String rows = READY + """
+            order(0, 0, 1, 0) = 0
+            order(0, 1, 1, 5) = 1
+            order(0, 0, 1, 3) = 2
+            order(0, 0, 1, 99) = 3
+            """;
+        ROWS.test("Promise 30: the open orders whose week is at most a week", rows, """
+            due(0) = 1
+            due(2) = 1
+            due(3) = 5
+            due(4) = 5
+            due(5) = 7
+            due(98) = 7
+            due(99) = 15
+            due(100) = 15
+            due(max) = 15
+            """);
+        ROWS.test("Promise 30: the week is negative", rows, """
+            due(-1) throws Argument
+            due(min) throws Argument
+            due(0) = 1
+            """);
+        ROWS.test("Promise 30: no order that is called off", rows, """
+            callOff(2) = 3
+            due(3) = 1
+            due(99) = 11
+            """);
+        ROWS.test("Promise 30: no order that is delivered, but one that is late", rows, """
+            order(0, 1, 1, 0) = 4
+            run(0, 2) = 0
+            """, WEEK, """
+            due(0) = 16
+            due(99) = 30
+            """);
+        ROWS.test("Promise 30: bit 9 for the order 9", FLOOR, "order(0, 0, 1, 0)\n".repeat(9), """
+            due(0) = 511
+            order(0, 0, 1, 1) = 9
+            due(0) = 511
+            due(1) = 1023
+            """);
     }
 
     private static void lateness() {
-        MouldFloor x = Floors.ready();
-        CHECKS.fails("lateness of none", Checks.ARITHMETIC, x, () -> x.lateness());
-        x.order(0, 0, 1, 0);
-        x.order(0, 0, 1, 0);
-        x.order(0, 0, 1, 0);
-        x.order(0, 1, 1, 0);
-        x.pause(480);
-        x.pause(480);
-        CHECKS.fails("lateness with none delivered", Checks.ARITHMETIC, x, () -> x.lateness());
-        x.run(0, 2);
-        x.pause(480);
-        CHECKS.due("lateness of one", 2.0, () -> x.lateness());
-        x.run(0, 4);
-        x.pause(480);
-        CHECKS.due("lateness of three", 8.0 / 3.0, () -> x.lateness());
-        x.callOff(3);
-        CHECKS.due("without those that are called off", 8.0 / 3.0, () -> x.lateness());
+        String rows = READY + """
+            order(0, 0, 1, 0) = 0
+            order(0, 0, 1, 0) = 1
+            order(0, 0, 1, 0) = 2
+            order(0, 1, 1, 0) = 3
+            """;
+        ROWS.test("Promise 33: none is delivered", rows, "lateness() throws Arithmetic\n", WEEK, WEEK, """
+            lateness() throws Arithmetic
+            callOff(0) = 3
+            lateness() throws Arithmetic
+            """);
+        ROWS.test("Promise 33: one is delivered, and not late", rows, "run(0, 2) = 0\n", WEEK, """
+            lateness() = 0d
+            """);
+        ROWS.test("Promise 33: the weeks of all delivered orders by the number of these", rows, WEEK, WEEK, """
+            run(0, 2) = 0
+            """, WEEK, """
+            lateness() = 2d
+            run(0, 4) = 0
+            """, WEEK, """
+            lateness() = 8d/3d
+            orderOf(3, 5) = 4
+            callOff(3) = 0
+            lateness() = 8d/3d
+            """);
+    }
+
+    private static void asked() {
+        String rows = READY + """
+            order(2, 1, 20, 99) = 0
+            order(1, 0, 3, 4) = 1
+            order(0, 0, 1, 0) = 2
+            order(0, 0, 1, 0) = 3
+            run(0, 2) = 0
+            """ + WEEK;
+        ROWS.test("Promise 27: orderOf", rows, """
+            orderOf(0, 0) = 2
+            orderOf(0, 1) = 1
+            orderOf(0, 2) = 20
+            orderOf(0, 3) = 99
+            orderOf(0, 4) = 0
+            orderOf(0, 5) = 0
+            orderOf(1, 0) = 1
+            orderOf(1, 1) = 0
+            orderOf(1, 2) = 3
+            orderOf(1, 3) = 4
+            orderOf(2, 4) = 1
+            orderOf(2, 5) = 0
+            orderOf(3, 4) = 0
+            orderOf(3, 5) = 1
+            callOff(3) = 2
+            orderOf(3, 4) = 2
+            """);
+        ROWS.test("Promise 27: there is no such order", rows, """
+            orderOf(-1, 0) throws Index
+            orderOf(4, 0) throws Index
+            orderOf(10, 0) throws Index
+            orderOf(min, 0) throws Index
+            orderOf(max, 0) throws Index
+            """);
+        ROWS.test("Promise 27: what is not from 0 to 5", rows, """
+            orderOf(0, -1) throws Argument
+            orderOf(3, 6) throws Argument
+            orderOf(0, min) throws Argument
+            orderOf(0, max) throws Argument
+            """);
+        ROWS.test("Promise 27: the order is looked at ahead of what", rows, """
+            orderOf(4, 6) throws Index
+            orderOf(-1, -1) throws Index
+            """);
     }
 }
