@@ -403,7 +403,9 @@ public final class ChangesTest {
             purge(1, 0) = 9
             pieces(0, 0) = 2
             familyOf(0, 0) = 7
+            familyOf(0, 1) = 9
             orderOf(0, 2) = 3
+            orderOf(0, 3) = 6
             set(1, 0) = 60
             load(0, 1, 100) = 100
             mount(0) = 0

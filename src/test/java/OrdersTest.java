@@ -244,6 +244,19 @@ public final class OrdersTest {
             stock(0, 0, 1) = 2
             stock(0, 0, 2) = 2
             """);
+        ROWS.test("The crates of several orders are delivered one after the other", READY, """
+            order(0, 0, 2, 0) = 0
+            order(0, 0, 1, 0) = 1
+            order(0, 0, 3, 1) = 2
+            run(0, 16) = 0
+            """, WEEK, """
+            stock(0, 0, 0) = 5
+            stock(0, 0, 2) = 3
+            """, WEEK, """
+            stock(0, 0, 0) = 2
+            stock(0, 0, 2) = 6
+            made(0, 1) = 32
+            """);
         ROWS.test("An order of 20 crates", READY, """
             order(0, 0, 20, 0) = 0
             run(0, 39) = 0
@@ -420,6 +433,14 @@ public final class OrdersTest {
             shots(0) = 2
             shots(1) = 5
             shots(2) = 7
+            """);
+        ROWS.test("Promise 28: the most shots", """
+            colour(0) = 0
+            part(50) = 0
+            family("1 1 0x1") = 0
+            mount(0) = 0
+            order(0, 0, 20, 0) = 0
+            shots(0) = 1000
             """);
         ROWS.test("Promise 28: the open crate counts", READY, """
             order(1, 0, 2, 0) = 0

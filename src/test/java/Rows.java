@@ -34,6 +34,7 @@ final class Rows {
     private final Checks checks;
     private final Map<String, String> seenOfRun = new HashMap<>();
     private List<Call> run = new ArrayList<>();
+    private List<Call> runBehindSave = new ArrayList<>();
     private String sentence = "";
 
     Rows(String test) {
@@ -81,6 +82,9 @@ final class Rows {
         if (isKept(calls)) {
             run = after;
             seenOfRun.clear();
+        }
+        if (nameOf(calls).equals("save")) {
+            runBehindSave = after;
         }
     }
 
@@ -134,7 +138,9 @@ final class Rows {
             checkChange(line, calls, after);
         } else if (nameOf(calls).equals("append")) {
             same(line, NOTHING, after, NOTHING, Set.of(Seen.CHARACTERS));
-        } else if (!OTHERS.contains(nameOf(calls)) || nameOf(calls).equals("save")) {
+        } else if (nameOf(calls).equals("restore")) {
+            checkRestored(line, after);
+        } else if (!nameOf(calls).equals("undo")) {
             same(line, NOTHING, after, NOTHING, Set.of());
         }
     }
@@ -168,10 +174,22 @@ final class Rows {
             hidden.add(Seen.REASONS);
             rowDue(line, Checks.REFUSED, answer);
             rowDue(line + ", then the reasons", told, Seen.reasons(x));
+            checkReasons(line, told, after);
         } else {
             rowDue(line, kind.equals("fault") ? Checks.ARGUMENT : EXCEPTIONS.get(told), answer);
         }
         checkNothingChanged(line, after, hidden);
+    }
+
+    /** The reasons are due behind any others, even if the row before was refused for the same ones. */
+    private void checkReasons(String line, String told, List<Call> after) {
+        Call other = told.startsWith("2.") ? new Call("mount", -1) : new Call("colour", -1);
+        Subject x = Subject.behind(run);
+        x.answer(other);
+        for (Call call : after.subList(run.size(), after.size())) {
+            x.answer(call);
+        }
+        rowDue(line + ", then the reasons behind others", told, Seen.reasons(x));
     }
 
     private void checkNothingChanged(String line, List<Call> after, Set<String> hidden) {
@@ -212,6 +230,16 @@ final class Rows {
                     seen(again, NOTHING, section, hidden));
             }
         }
+    }
+
+    private void checkRestored(String line, List<Call> after) {
+        Set<String> hidden = Set.of(Seen.CHANGES, Seen.CHARACTERS, Seen.FAULT, Seen.REASONS);
+        for (int section = 0; section < Seen.SECTIONS; section++) {
+            alike(line + ", then what was saved", seen(runBehindSave, NOTHING, section, hidden),
+                seen(after, NOTHING, section, hidden));
+        }
+        rowDue(line + ", then the changes", 0, Subject.behind(after).number("account", 13));
+        rowDue(line + ", then the minutes to the end of the week", minutesToEnd(runBehindSave), minutesToEnd(after));
     }
 
     /** What is seen behind the rows so far and some calls is what is seen behind others. */
