@@ -29,7 +29,6 @@ public final class MouldFloor {
     private static final int DRYING_TIME = 1;
     private static final int PURGE_FACTOR = 2;
     private static final int MOUNTING_TIME = 3;
-    private static final int[] FIRST_SETTINGS = {480, 60, 2, 10};
     private static final int[] LEAST_SETTINGS = {60, 0, 0, 0};
     private static final int[] MOST_SETTINGS = {9999, 999, 5, 99};
 
@@ -429,11 +428,8 @@ public final class MouldFloor {
         final int[] weights = new int[MOST_FAMILIES];
         /** By family and part; 0 where the family does not have the part, as a part in it has 1 piece at least. */
         final int[] piecesOfShot = new int[MOST_FAMILIES * MOST_PARTS];
-        final int[] settings = new int[SETTINGS];
-
-        Catalogue() {
-            copyRow(FIRST_SETTINGS, settings);
-        }
+        /** By their numbers, at first with their first values. */
+        final int[] settings = {480, 60, 2, 10};
 
         void copyFrom(Catalogue other) {
             colourCount = other.colourCount;
