@@ -69,14 +69,33 @@ public final class FaceTest {
         for (String line : FACE) {
             names.add(line.split(" ")[1]);
         }
+        ownNames(MouldFloor.class, names);
         Class<?>[] inside = MouldFloor.class.getDeclaredClasses();
         CHECKS.due("at most some twelve classes", true, () -> inside.length <= 12);
         for (Class<?> type : inside) {
             CHECKS.due("static: " + type, true, () -> Modifier.isStatic(type.getModifiers()));
             CHECKS.due("not public: " + type, false, () -> Modifier.isPublic(type.getModifiers()));
-            for (Method method : type.getDeclaredMethods()) {
+            ownNames(type, names);
+            fewFields(type);
+        }
+        fewFields(MouldFloor.class);
+    }
+
+    /** No method that is not of the face bears the name of one that is. */
+    private static void ownNames(Class<?> type, Set<String> names) {
+        for (Method method : type.getDeclaredMethods()) {
+            if (!Modifier.isPublic(method.getModifiers())) {
                 CHECKS.due("a name of its own: " + method, false, () -> names.contains(method.getName()));
             }
         }
+    }
+
+    private static void fewFields(Class<?> type) {
+        int count = 0;
+        for (Field field : type.getDeclaredFields()) {
+            count += Modifier.isStatic(field.getModifiers()) ? 0 : 1;
+        }
+        int fields = count;
+        CHECKS.due("at most some twenty fields: " + type, true, () -> fields <= 20);
     }
 }
